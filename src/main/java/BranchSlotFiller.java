@@ -389,22 +389,26 @@ public final class BranchSlotFiller {
 
         private final String word;
         private final String form;
+        private final boolean writesA;
+        private final boolean readsA;
+        private final boolean readsB;
+        private final boolean readsC;
+        private final boolean isBranch;
+        private final boolean isConditional;
 
         Kind(String word, String form) {
             this.word = word;
             this.form = form;
+            writesA = form.charAt(0) == 'w';
+            readsA = form.charAt(0) == 'r';
+            readsB = form.charAt(1) == 'r';
+            readsC = form.charAt(2) == 'r';
+            isBranch = form.charAt(2) == 't';
+            isConditional = isBranch && readsA;
         }
 
         char sign(int operand) {
             return form.charAt(operand);
-        }
-
-        boolean isBranch() {
-            return sign(2) == 't';
-        }
-
-        boolean isConditional() {
-            return isBranch() && this != JUMP;
         }
 
         boolean isMemoryAccess() {
@@ -412,7 +416,7 @@ public final class BranchSlotFiller {
         }
 
         boolean canFill() {
-            return this != NOP && this != HALT && !isBranch();
+            return this != NOP && this != HALT && !isBranch;
         }
     }
 
@@ -438,15 +442,15 @@ public final class BranchSlotFiller {
         }
 
         Kind kind(int i) {
-            return KINDS[part(i, KIND)];
+            return KINDS[parts[i * PARTS + KIND]];
         }
 
         int target(int i) {
-            return part(i, C);
+            return parts[i * PARTS + C];
         }
 
         boolean isBranch(int i) {
-            return kind(i).isBranch();
+            return KINDS[parts[i * PARTS + KIND]].isBranch;
         }
 
         // A slot is never a branch itself, so the entry before tells enough.
@@ -455,7 +459,7 @@ public final class BranchSlotFiller {
         }
 
         boolean isAnnulling(int i) {
-            return part(i, ANNULLING) == 1;
+            return parts[i * PARTS + ANNULLING] == 1;
         }
 
         boolean hasEmptySlot(int i) {
@@ -578,23 +582,20 @@ public final class BranchSlotFiller {
             return found;
         }
 
+        /** Answers the registers that an instruction reads, bit r for register r. */
         int reads(int i) {
-            return registers(i, 'r');
-        }
-
-        int writes(int i) {
-            return registers(i, 'w');
-        }
-
-        private int registers(int i, char sign) {
-            Kind kind = kind(i);
-            int set = 0;
-            for (int operand = 0; operand < OPERANDS; operand++) {
-                if (kind.sign(operand) == sign) {
-                    set |= 1 << part(i, A + operand);
-                }
-            }
+            int at = i * PARTS;
+            Kind kind = KINDS[parts[at + KIND]];
+            int set = kind.readsA ? 1 << parts[at + A] : 0;
+            set |= kind.readsB ? 1 << parts[at + B] : 0;
+            set |= kind.readsC ? 1 << parts[at + C] : 0;
             return set;
+        }
+
+        /** Answers the register that an instruction writes, as a set. */
+        int writes(int i) {
+            int at = i * PARTS;
+            return KINDS[parts[at + KIND]].writesA ? 1 << parts[at + A] : 0;
         }
 
         boolean areIndependent(int i, int k) {
@@ -614,6 +615,8 @@ public final class BranchSlotFiller {
     private static final class Flow {
         private final Program program;
         private final int[] live = new int[MOST_ENTRIES + 1];
+        private final int[] read = new int[MOST_ENTRIES];
+        private final int[] written = new int[MOST_ENTRIES];
         private final boolean[] isReached = new boolean[MOST_ENTRIES + 1];
 
         Flow(Program program) {
@@ -622,27 +625,23 @@ public final class BranchSlotFiller {
 
         /** Answers the registers that are live before an entry that is no slot, or at the end. */
         int liveBefore(int i) {
-            for (int k = 0; k <= program.size; k++) {
+            for (int k = 0; k < program.size; k++) {
+                read[k] = program.reads(k);
+                written[k] = program.writes(k);
                 live[k] = 0;
             }
+            live[program.size] = 0;
             // Each round but the last one adds a register somewhere.
             boolean isGrowing = true;
             for (int round = 0; isGrowing && round <= MOST_ENTRIES * REGISTERS; round++) {
-                isGrowing = growLive();
-            }
-            return live[i];
-        }
-
-        private boolean growLive() {
-            boolean isGrowing = false;
-            for (int i = program.size - 1; i >= 0; i--) {
-                int set = program.isSlot(i) ? 0 : liveFromFollowing(i);
-                if (set != live[i]) {
-                    live[i] = set;
-                    isGrowing = true;
+                isGrowing = false;
+                for (int k = program.size - 1; k >= 0; k--) {
+                    int set = program.isSlot(k) ? 0 : liveFromFollowing(k);
+                    isGrowing = isGrowing || set != live[k];
+                    live[k] = set;
                 }
             }
-            return isGrowing;
+            return live[i];
         }
 
         private int liveFromFollowing(int i) {
@@ -650,18 +649,18 @@ public final class BranchSlotFiller {
             if (kind == Kind.HALT) {
                 return 0;
             }
-            if (!kind.isBranch()) {
+            if (!kind.isBranch) {
                 return liveThrough(i, live[i + 1]);
             }
-            int set = program.reads(i) | liveThrough(i + 1, live[program.target(i)]);
-            if (kind.isConditional()) {
+            int set = read[i] | liveThrough(i + 1, live[program.target(i)]);
+            if (kind.isConditional) {
                 set |= program.isAnnulling(i) ? live[i + 2] : liveThrough(i + 1, live[i + 2]);
             }
             return set;
         }
 
         private int liveThrough(int i, int after) {
-            return program.reads(i) | (after & ~program.writes(i));
+            return read[i] | (after & ~written[i]);
         }
 
         /** Answers the number of entries that are no slots and that no execution could reach. */
@@ -691,13 +690,13 @@ public final class BranchSlotFiller {
                     continue;
                 }
                 Kind kind = program.kind(i);
-                if (kind.isBranch()) {
+                if (kind.isBranch) {
                     isGrowing = reach(program.target(i)) || isGrowing;
                 }
-                if (kind.isConditional()) {
+                if (kind.isConditional) {
                     isGrowing = reach(i + 2) || isGrowing;
                 }
-                if (!kind.isBranch() && kind != Kind.HALT) {
+                if (!kind.isBranch && kind != Kind.HALT) {
                     isGrowing = reach(i + 1) || isGrowing;
                 }
             }
@@ -741,7 +740,7 @@ public final class BranchSlotFiller {
             }
             for (int i = branch - 1; i >= 0; i--) {
                 Kind kind = program.kind(i);
-                if (kind.isBranch() || kind == Kind.HALT || program.isSlot(i)) {
+                if (kind.isBranch || kind == Kind.HALT || program.isSlot(i)) {
                     return NONE;
                 }
                 if (kind.canFill() && canPass(i, branch)) {
@@ -770,7 +769,7 @@ public final class BranchSlotFiller {
 
         private int findInFallThrough(int branch) {
             int i = branch + 2;
-            if (!program.kind(branch).isConditional() || !program.has(i)) {
+            if (!program.kind(branch).isConditional || !program.has(i)) {
                 return NONE;
             }
             Kind kind = program.kind(i);
@@ -786,7 +785,7 @@ public final class BranchSlotFiller {
             program.copyInstruction(found, branch + 1);
             if (way == FROM_TARGET) {
                 program.put(branch, C, found + 1);
-                program.put(branch, ANNULLING, program.kind(branch).isConditional() ? 1 : 0);
+                program.put(branch, ANNULLING, program.kind(branch).isConditional ? 1 : 0);
                 return branch;
             }
             program.put(branch, ANNULLING, 0);
@@ -796,35 +795,22 @@ public final class BranchSlotFiller {
 
         /** Fills the slots from the first branch to the last one, and answers how many were filled. */
         int fillEach(int first, int second) {
+            int third = FROM_BEFORE + FROM_TARGET + FROM_FALL_THROUGH - first - second;
             int filled = 0;
-            int branch = 0;
-            // Each round brings the branch nearer to the end, also where the fill makes both numbers lower.
-            for (int round = 0; round < MOST_ENTRIES && branch < program.size; round++) {
-                if (!program.isBranch(branch)) {
-                    branch++;
-                    continue;
+            int i = 0;
+            // Each round brings i nearer to the end, also where a fill makes both numbers lower.
+            for (int round = 0; round < MOST_ENTRIES && i < program.size; round++) {
+                for (int turn = 0; turn < WAYS && program.hasEmptySlot(i); turn++) {
+                    int way = turn == 0 ? first : turn == 1 ? second : third;
+                    int found = find(i, way);
+                    if (found != NONE) {
+                        i = move(found, i, way);
+                        filled++;
+                    }
                 }
-                int filledBranch = program.hasEmptySlot(branch) ? fillOne(branch, first, second) : NONE;
-                if (filledBranch != NONE) {
-                    branch = filledBranch;
-                    filled++;
-                }
-                branch += 2;
+                i += program.isBranch(i) ? 2 : 1;
             }
             return filled;
-        }
-
-        /** Fills a slot in the first way that has a candidate, and answers the number of the branch then, or NONE. */
-        private int fillOne(int branch, int first, int second) {
-            int third = FROM_BEFORE + FROM_TARGET + FROM_FALL_THROUGH - first - second;
-            for (int turn = 0; turn < WAYS; turn++) {
-                int way = turn == 0 ? first : turn == 1 ? second : third;
-                int found = find(branch, way);
-                if (found != NONE) {
-                    return move(found, branch, way);
-                }
-            }
-            return NONE;
         }
     }
 
@@ -872,7 +858,7 @@ public final class BranchSlotFiller {
             int afterSlot = NONE;
             for (steps = 0; steps < limit && at < program.size; steps++) {
                 Kind kind = program.kind(at);
-                if (kind.isBranch()) {
+                if (kind.isBranch) {
                     boolean isTaken = conditionHolds(program, at);
                     int next = isTaken ? program.target(at) : at + (hasSlots ? 2 : 1);
                     boolean isSlotDue = hasSlots && (isTaken || !program.isAnnulling(at));
@@ -890,7 +876,7 @@ public final class BranchSlotFiller {
         }
 
         private boolean conditionHolds(Program program, int i) {
-            if (!program.kind(i).isConditional()) {
+            if (!program.kind(i).isConditional) {
                 return true;
             }
             int left = values[program.part(i, A)];
@@ -1067,17 +1053,13 @@ public final class BranchSlotFiller {
         }
 
         private int greatest(char sign) {
-            switch (sign) {
-                case 'r':
-                case 'w':
-                    return REGISTERS - 1;
-                case 'o':
-                    return CELLS - 1;
-                case 't':
-                    return program.size;
-                default:
-                    return 99;
+            if (sign == 'o') {
+                return CELLS - 1;
             }
+            if (sign == 't') {
+                return program.size;
+            }
+            return sign == 'n' ? 99 : REGISTERS - 1;
         }
     }
 

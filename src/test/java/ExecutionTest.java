@@ -80,6 +80,14 @@ final class ExecutionTest {
         runs("load 4 3 15;out 4", 2, 2, "113");
         runs("halt;out 1", 1, 1, "");
         runs("out 1;halt", 2, 2, "10");
+        BranchSlotFiller y = Check.expanded("copy 1 2;load 3 3 1;out 1;out 3");
+        y.setInitial(false, 0, 50);
+        y.setInitial(false, 2, 60);
+        y.setInitial(true, 1, 70);
+        y.run(true, 9);
+        outputs("a copy and a load", y, "60 70");
+        Check.same("cell 7", y.finalValue(true, 7), 0);
+        Check.same("cell 1", y.finalValue(true, 1), 70);
         BranchSlotFiller x = runs("set 4 -1;store 1 4 0;store 2 4 1;store 3 2 5;load 5 4 2;out 5", 6, 6, "101");
         Check.same("cell 15", x.finalValue(true, 15), 10);
         Check.same("cell 0", x.finalValue(true, 0), 20);

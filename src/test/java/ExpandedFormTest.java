@@ -6,6 +6,7 @@ final class ExpandedFormTest {
         entryTellsParts();
         countCounts();
         countTellsUnreachableEntries();
+        countLooksAtTheFormAlone();
         liveFollowsTheWays();
         liveSeesSlots();
         liveTellsErrors();
@@ -101,6 +102,31 @@ final class ExpandedFormTest {
         unreachable("jump 3;out 1;jump 4;jump 1", 0);
         unreachable("jump 4;out 1;jump 4;jump 1", 3);
         unreachable("less 1 2 2;halt;halt;out 1", 1);
+        unreachable("jump 7;halt;out 1;halt;less 1 2 2;halt;halt;equal 1 2 4;jump 9", 2);
+        unreachable("jump 4;halt;jump 6;halt;less 1 2 2;halt;out 1", 2);
+        unreachable("jump 5;nop;halt;jump 1;halt;equal 1 2 3;jump 3", 1);
+        unreachable("jump 4;out 1;halt;halt;less 1 2 1;jump 3", 0);
+    }
+
+    private static void countLooksAtTheFormAlone() {
+        BranchSlotFiller x = Check.parsed(Check.repeated("jump 14", ";", 14));
+        Check.parse(x, Check.repeated("jump 14", ";", 14));
+        Check.parse(x, "jump 0;jump 2");
+        x.expand();
+        counts(x, "30 30 0 30 27");
+        Check.same("targets in a full form", x.entry(28, 6), 14);
+        x.clear();
+        Check.parse(x, "out 1;less 1 2 0");
+        x.expand();
+        x.fill(1, 1);
+        counts(x, "1 0 1 0 0");
+        x.clear();
+        x.expand();
+        counts(x, "0 0 0 0 0");
+        Check.parse(x, "out 1");
+        x.expand();
+        counts(x, "0 0 0 0 0");
+        Check.same("no branch goes there any more", x.entry(0, 6), 0);
     }
 
     private static void unreachable(String text, int due) {

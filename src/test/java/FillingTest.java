@@ -212,6 +212,7 @@ final class FillingTest {
         // The last branch has become a target by then, so that nothing is considered before it.
         all("set 1 1;jump 2;set 2 2;jump 4;set 3 3;jump 6", 2, 1, 2,
                 "set 1 1;jump 4|set 2 2;set 2 2;jump 7|set 3 3;set 3 3;jump 9|nop");
+        all("set 1 1;jump 2;jump 3;set 3 3", 0, 1, 2, "jump 2|set 1 1;jump 5|set 3 3;set 3 3");
         allAsByFill("set 1 1;equal 1 2 2;set 3 3;less 3 4 4;out 5");
         allAsByFill("set 1 1;out 4;equal 2 3 5;set 2 3;store 1 2 4;less 1 2 1;set 1 3;jump 0;set 5 5;equal 1 5 3");
         BranchSlotFiller x = Check.expanded("equal 1 2 3;set 3 3;set 4 4;equal 1 2 5;set 5 5;out 6");

@@ -139,6 +139,10 @@ final class SourceTest {
         wrong("Nop", 0);
         wrong("noP", 0);
         wrong("nopP", 3);
+        wrong("nopz", 0);
+        wrong("nopa", 0);
+        wrong("nop`", 3);
+        wrong("nop{", 3);
         wrong("nop;out 1;sett 1", 10);
         wrong("nop;out 1;", 10);
         wrong("\u00e9", 0);
