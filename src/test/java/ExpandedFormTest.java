@@ -8,6 +8,7 @@ final class ExpandedFormTest {
         countTellsUnreachableEntries();
         countLooksAtTheFormAlone();
         liveFollowsTheWays();
+        liveForgetsEarlierForms();
         liveSeesSlots();
         liveTellsErrors();
         isIndependentLooksAtRegisters();
@@ -161,6 +162,17 @@ final class ExpandedFormTest {
         lives(Check.expanded("jump 0"), "0 - 0");
         lives(Check.expanded("set 1 5;set 2 1;add 3 3 1;sub 1 1 2;less 0 1 2;out 3;halt"),
                 "9 11 15 15 15 - 8 0 0");
+    }
+
+    private static void liveForgetsEarlierForms() {
+        BranchSlotFiller x = Check.expanded("out 3;out 4");
+        lives(x, "24 16 0");
+        x.clear();
+        Check.parse(x, "jump 0");
+        x.expand();
+        lives(x, "0 - 0");
+        x.undo();
+        lives(x, "24 16 0");
     }
 
     private static void liveSeesSlots() {
