@@ -13,8 +13,14 @@ final class Check {
 
     private static int wrong = 0;
     private static int done = 0;
+    private static String sentence = "";
 
     private Check() {
+    }
+
+    /** The checks that follow are there for this sentence of the document; what goes wrong is told with it. */
+    static void sentence(String words) {
+        sentence = words;
     }
 
     static void same(String what, long got, long due) {
@@ -53,7 +59,7 @@ final class Check {
 
     static void report(String line) {
         wrong++;
-        System.out.println(line);
+        System.out.println(sentence.isEmpty() ? line : line + "  [" + sentence + "]");
     }
 
     static void finish() {
@@ -103,6 +109,28 @@ final class Check {
         StringBuilder text = new StringBuilder();
         for (int i = 0; i < length; i++) {
             text.append(x.text(i));
+        }
+        return text.toString();
+    }
+
+    /** The text that was written last, read from its beginning to the first index that is none. */
+    static String text(BranchSlotFiller x) {
+        StringBuilder text = new StringBuilder();
+        while (text.length() < 2000) {
+            try {
+                text.append(x.text(text.length()));
+            } catch (IndexOutOfBoundsException e) {
+                break;
+            }
+        }
+        return text.toString();
+    }
+
+    static String outputs(BranchSlotFiller x) {
+        StringBuilder text = new StringBuilder();
+        int outputs = x.outputs();
+        for (int i = 0; i < outputs; i++) {
+            text.append(i == 0 ? "" : " ").append(x.output(i));
         }
         return text.toString();
     }
