@@ -227,10 +227,10 @@ public final class BranchSlotFiller {
     }
 
     public char text(int i) throws IndexOutOfBoundsException {
-        if (i < 0 || i >= writer.letters.length()) {
+        if (i < 0 || i >= writer.length) {
             throw new IndexOutOfBoundsException("no such character");
         }
-        return writer.letters.charAt(i);
+        return writer.letters[i];
     }
 
     private static boolean isWay(int way) {
@@ -1065,43 +1065,55 @@ public final class BranchSlotFiller {
 
     /** The text that was written last. */
     private static final class TextWriter {
-        private final StringBuilder letters = new StringBuilder();
+        // The longest entry is "equal* 7 7 60" with the sign before it.
+        private static final int MOST_OF_AN_ENTRY = 14;
+
+        private final char[] letters = new char[MOST_ENTRIES * MOST_OF_AN_ENTRY];
+        private int length;
 
         int writeProgram(Program program) {
-            letters.setLength(0);
+            length = 0;
             for (int i = 0; i < program.size; i++) {
                 if (i > 0) {
-                    letters.append(program.isSlot(i) ? '|' : ';');
+                    append(program.isSlot(i) ? '|' : ';');
                 }
                 writeInstruction(program, i);
             }
-            return letters.length();
+            return length;
         }
 
         private void writeInstruction(Program program, int i) {
             Kind kind = program.kind(i);
-            letters.append(kind.word);
+            for (int k = 0; k < kind.word.length(); k++) {
+                append(kind.word.charAt(k));
+            }
             if (program.isAnnulling(i)) {
-                letters.append('*');
+                append('*');
             }
             for (int operand = 0; operand < OPERANDS; operand++) {
                 if (kind.sign(operand) != '-') {
-                    letters.append(' ');
+                    append(' ');
                     writeNumber(program.part(i, A + operand));
                 }
             }
         }
 
-        // All numbers have one or two digits; written by hand, they cost no objects.
         private void writeNumber(int value) {
             int size = Math.abs(value);
             if (value < 0) {
-                letters.append('-');
+                append('-');
             }
             if (size >= 10) {
-                letters.append((char) ('0' + size / 10));
+                append((char) ('0' + size / 10));
             }
-            letters.append((char) ('0' + size % 10));
+            append((char) ('0' + size % 10));
+        }
+
+        private void append(char letter) {
+            if (length < letters.length) {
+                letters[length] = letter;
+                length++;
+            }
         }
     }
 }

@@ -263,6 +263,9 @@ final class FillingSentencesTest {
         filled("jump 2;out 1;out 2;out 3", 0, 1, 0, "jump 4|out 2;out 1;out 2;out 3");
         BranchSlotFiller end = filled("jump 2;out 1;out 2", 0, 1, 0, "jump 4|out 2;out 1;out 2");
         Check.same("the end", end.entries(), 4);
+        filled("jump 2;halt;out 3;nop;out 4", 0, 1, 0, "jump 4|out 3;halt;out 3;nop;out 4");
+        filled("jump 2;halt;out 3;halt;out 4", 0, 1, 0, "jump 4|out 3;halt;out 3;halt;out 4");
+        filled("jump 2;halt;out 3;jump 1;out 4", 0, 1, 0, "jump 4|out 3;halt;out 3;jump 2|nop;out 4");
         BranchSlotFiller self = filled("out 1;less 2 3 0;out 4", 1, 1, 1, "out 1;less* 2 3 1|out 1;out 4");
         Check.same("a branch before it is its own target", self.entry(1, 6), 1);
         BranchSlotFiller two = Check.expanded("jump 2;jump 2;out 1");

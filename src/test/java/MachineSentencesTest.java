@@ -37,7 +37,9 @@ final class MachineSentencesTest {
         bothWaysOfAConditionalBranchCount();
         aJumpHasOneWay();
         haltHasNoWay();
+        aWayCanBeLong();
         theSlotLiesOnTheWay();
+        theBranchReadsBeforeItsSlotWrites();
         aRegisterIsReadBeforeItIsWritten();
         atTheEndNoRegisterIsLive();
         Check.finish();
@@ -551,6 +553,53 @@ final class MachineSentencesTest {
         lives(Check.expanded("nop;jump 0"), "0 0 - 0");
         lives(Check.expanded("out 7;jump 0"), "128 128 - 0");
         lives(Check.expanded("set 0 1;out 0;less 1 2 0"), "6 7 6 - 0");
+    }
+
+    /** 10 branches, the first one of which goes to the last one; from there the way leads back to the second one. */
+    private static String back(String second) {
+        return "jump 9;" + second + ";jump 1;jump 2;jump 3;jump 4;jump 5;jump 6;jump 7;jump 8";
+    }
+
+    private static void aWayCanBeLong() {
+        Check.sentence("a sequence of entries that an execution could go through from there, however long it is");
+        BranchSlotFiller x = Check.parsed(back("jump 10"));
+        Check.parse(x, back("jump 10"));
+        Check.parse(x, back("out 3"));
+        Check.same("entries", x.expand(), 59);
+        for (int i = 0; i < 59; i++) {
+            if (x.entry(i, 4) == 0) {
+                Check.same("live before " + i, x.live(i), 8);
+            }
+        }
+        Check.same("all entries can be reached", x.count(4), 0);
+        BranchSlotFiller y = Check.parsed(back("jump 10"));
+        Check.parse(y, back("less 1 2 10"));
+        Check.parse(y, back("halt"));
+        y.expand();
+        for (int i = 0; i < 59; i++) {
+            if (y.entry(i, 4) == 0) {
+                Check.same("live before " + i, y.live(i), i < 40 ? 6 : 0);
+            }
+        }
+        Check.same("all but those after halt can be reached", y.count(4), 0);
+        x.clear();
+        Check.parse(x, back("jump 9"));
+        Check.parse(x, back("out 3"));
+        x.expand();
+        Check.same("no entry of the second text, nor the end, can be reached", x.count(4), 10);
+        Check.same("no register is live", x.live(0), 0);
+    }
+
+    private static void theBranchReadsBeforeItsSlotWrites() {
+        Check.sentence("A branch first tests its condition; then its slot is executed (for liveness)");
+        BranchSlotFiller x = Check.expanded("less 1 2 2;halt;set 1 5;set 2 5");
+        x.fill(0, 1);
+        Check.same("an annulled slot", Check.written(x), "less* 1 2 4|set 1 5;halt;set 1 5;set 2 5");
+        lives(x, "6 - 0 0 0 0");
+        BranchSlotFiller y = Check.expanded("equal 1 2 2;set 2 9");
+        y.fill(0, 2);
+        Check.same("a slot on both ways", Check.written(y), "equal 1 2 2|set 2 9");
+        lives(y, "6 - 0");
     }
 
     private static void theSlotLiesOnTheWay() {

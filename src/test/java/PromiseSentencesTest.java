@@ -36,6 +36,7 @@ final class PromiseSentencesTest {
         promise19();
         promise20Limits();
         promise20Keeps();
+        promise20BeginsAnew();
         promise21To23();
         promise24Draws();
         promise24Compares();
@@ -87,6 +88,15 @@ final class PromiseSentencesTest {
             Check.same("feed of " + letter, x.feed((char) letter), 1);
             Check.same("feed of n", x.feed('n'), 2);
             Check.same("parse of " + letter, x.parse(), -100);
+        }
+        String text = "nop;set 1 -5";
+        int[] due = {0, 0, 0, 3, 4, 4, 4, 7, 8, 9, 10, 11};
+        for (int i = 0; i < due.length; i++) {
+            BranchSlotFiller x = new BranchSlotFiller();
+            for (int k = 0; k < due.length; k++) {
+                x.feed((char) (text.charAt(k) + (k == i ? 256 : 0)));
+            }
+            Check.same("parse with a character above 255 at " + i, x.parse(), -100 - due[i]);
         }
     }
 
@@ -564,6 +574,12 @@ final class PromiseSentencesTest {
         Check.parse(all, Check.repeated("jump 9;out 1", ";", 5));
         all.expand();
         Check.same("all but two, which go to a branch and have none before", all.fillAll(1, 0), 13);
+        // The second branch leaves the entry that the first one could take then, but the first one had its turn.
+        BranchSlotFiller once = Check.expanded("equal 1 2 4;set 3 1;set 4 1;jump 1");
+        Check.same("each branch has one turn", once.fillAll(1, 2), 1);
+        Check.same("the form", Check.written(once), "equal 1 2 6|nop;set 3 1;set 4 1;jump 3|set 3 1");
+        Check.same("a second call", once.fillAll(1, 2), 1);
+        Check.same("the form", Check.written(once), "equal 1 2 5|set 3 1;set 4 1;jump 2|set 3 1");
         Check.sentence("Promise 15: for each branch whose slot holds nop");
         BranchSlotFiller filled = Check.expanded("out 1;jump 0");
         filled.fill(1, 1);
@@ -643,7 +659,15 @@ final class PromiseSentencesTest {
         BranchSlotFiller full = fullOfBranches();
         int length = 14 * 11 + 14 * 11 + 2 * 11 + 29;
         Check.same("the length of 60 entries", full.write(), length);
-        Check.same("its text", Check.text(full).length(), length);
+        String due = Check.repeated("jump 28|nop", ";", 14) + ";" + Check.repeated("jump 56|nop", ";", 14)
+                + ";jump 56|nop;jump 60|nop";
+        Check.same("its text", Check.text(full), due);
+        Check.same("the length of its text", due.length(), length);
+        BranchSlotFiller conditions = fullOfConditions();
+        String first = Check.repeated("less 0 7 0|nop", ";", 10);
+        String others = first.replace("7 0", "7 20") + ";" + first.replace("7 0", "7 40");
+        Check.same("the length of other 60 entries", conditions.write(), first.length() + 1 + others.length());
+        Check.same("their text", Check.text(conditions), first + ";" + others);
         Check.sentence("Promise 18: IndexOutOfBoundsException if there is no such index");
         x.undo();
         x.write();
@@ -730,6 +754,17 @@ final class PromiseSentencesTest {
         Check.same("outputs", Check.outputs(x), "");
         Check.same("register 1", x.finalValue(false, 1), 4);
         Check.same("cell 7", x.finalValue(true, 7), 0);
+    }
+
+    private static void promise20BeginsAnew() {
+        Check.sentence("An execution begins with an empty output (promise 20)");
+        BranchSlotFiller x = Check.expanded("out 1;out 2");
+        for (int round = 0; round < 6; round++) {
+            x.setInitial(false, 1, round);
+            Check.same("steps", x.run(round % 3 == 0, round % 2 == 0 ? 2000 : 2), 2);
+            Check.same("outputs", Check.outputs(x), round + " 0");
+            Check.fails("one step", Check.UNSUPPORTED, () -> x.run(true, 1));
+        }
     }
 
     private static void promise21To23() {

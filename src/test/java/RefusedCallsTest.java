@@ -1,13 +1,9 @@
 /**
  * "A method that throws an exception or returns an error code leaves the state unchanged, unless its description says
- * otherwise": two objects are made in the same way, one of them gets a call that is refused, and then all that can be
- * asked of both must be the same.
+ * otherwise": two objects are made in the same way, one of them gets a call that is refused, and then each part of both
+ * must be the same.
  */
 final class RefusedCallsTest {
-    private interface Call {
-        long of(BranchSlotFiller x);
-    }
-
     private interface Maker {
         BranchSlotFiller make();
     }
@@ -15,6 +11,7 @@ final class RefusedCallsTest {
     public static void main(String[] args) {
         Check.sentence("A method that throws an exception or returns an error code leaves the state unchanged");
         refusedByABusyOne();
+        refusedByOthers();
         refusedByANewOne();
         refusedTexts();
         refusedFeed();
@@ -22,16 +19,42 @@ final class RefusedCallsTest {
     }
 
     /** Something of everything: a source, a form with a filled slot, a text, an execution, what is saved, a buffer. */
-    private static BranchSlotFiller busy() {
+    private static BranchSlotFiller made(boolean isRun, boolean isSaved, String buffer) {
         BranchSlotFiller x = Check.expanded("set 1 1;equal 2 3 3;jump 0;out 5");
         x.setInitial(false, 5, 9);
         x.setInitial(true, 3, 8);
-        x.run(true, 50);
+        if (isRun) {
+            x.run(true, 50);
+        }
         x.write();
-        x.save();
+        if (isSaved) {
+            x.save();
+        }
         x.fill(3, 1);
         x.setInitial(false, 4, 7);
+        Check.feed(x, buffer);
+        return x;
+    }
+
+    private static BranchSlotFiller busy() {
+        return made(true, true, "out 2");
+    }
+
+    private static BranchSlotFiller busyWithoutBranches() {
+        BranchSlotFiller x = made(true, true, "");
+        x.clear();
+        Check.parse(x, "copy 3 4");
+        x.expand();
         Check.feed(x, "out 2");
+        return x;
+    }
+
+    private static BranchSlotFiller busyWithoutChanges() {
+        BranchSlotFiller x = busyWithoutBranches();
+        x.save();
+        x.restore();
+        x.clear();
+        x.setInitial(true, 6, 5);
         return x;
     }
 
@@ -76,8 +99,21 @@ final class RefusedCallsTest {
         refused("meanSteps(1, 51)", Check.ARGUMENT, x -> (long) x.meanSteps(1, 51));
     }
 
-    private static void refused(String what, Class<?> due, Call call) {
+    private static void refused(String what, Class<?> due, Part.Call call) {
         compared(what, due, call, RefusedCallsTest::busy);
+    }
+
+    private static void refusedByOthers() {
+        compared("undo", Check.STATE, x -> x.undo(), RefusedCallsTest::busyWithoutChanges);
+        compared("filledShare", Check.ARITHMETIC, x -> (long) x.filledShare(), RefusedCallsTest::busyWithoutBranches);
+        compared("restore", Check.STATE, x -> x.restore(), () -> made(true, false, "out 2"));
+        Maker maker = () -> made(false, true, "out 2");
+        compared("finalValue", Check.STATE, x -> x.finalValue(true, 0), maker);
+        compared("outputs", Check.STATE, x -> x.outputs(), maker);
+        compared("output", Check.STATE, x -> x.output(0), maker);
+        compared("run", Check.UNSUPPORTED, x -> x.run(true, 3), maker);
+        String full = Check.repeated("nop", ";", 28) + ";set 0 78";
+        compared("feed", Check.STATE, x -> x.feed('9'), () -> made(true, true, full));
     }
 
     private static void refusedByANewOne() {
@@ -91,29 +127,33 @@ final class RefusedCallsTest {
         compared("run without end", Check.UNSUPPORTED, x -> x.run(false, 2000), maker);
         compared("text of nothing", Check.OUT_OF_BOUNDS, x -> x.text(0), maker);
         compared("fill of nothing", Check.OUT_OF_BOUNDS, x -> x.fill(0, 0), maker);
-        Maker changed = () -> Check.expanded("out 1;jump 0");
-        compared("restore after a change", Check.STATE, x -> x.restore(), changed);
     }
 
-    private static void compared(String what, Class<?> due, Call call, Maker maker) {
-        BranchSlotFiller x = maker.make();
-        Check.fails(what, due, () -> call.of(x));
-        Check.same("all after " + what, all(x), all(maker.make()));
+    private static void compared(String what, Class<?> due, Part.Call call, Maker maker) {
+        for (Part part : Part.values()) {
+            BranchSlotFiller x = maker.make();
+            Check.fails(what, due, () -> call.of(x));
+            Check.same(part + " after " + what, part.of(x), part.of(maker.make()));
+        }
     }
 
     /** The buffer is empty afterwards, so that the other object never had one. */
     private static void refusedTexts() {
-        String[] texts = {"set 3 3;jump 3;out", "set 3 3;out 8", "set 3 3;jump 3", Check.repeated("nop", ";", 27)};
-        for (String text : texts) {
-            BranchSlotFiller x = Check.expanded("set 1 1;equal 2 3 3;jump 0;out 5");
-            Check.feed(x, text);
-            if (text.endsWith("t")) {
+        refusedText("set 3 3;jump 3;out", null);
+        refusedText("set 3 3;out 8", Check.ARGUMENT);
+        refusedText("set 3 3;jump 3", Check.ARGUMENT);
+        refusedText(Check.repeated("nop", ";", 27), Check.STATE);
+    }
+
+    private static void refusedText(String text, Class<?> due) {
+        for (Part part : Part.values()) {
+            BranchSlotFiller x = made(true, true, text);
+            if (due == null) {
                 Check.same("parse of " + text, x.parse(), -100 - text.length());
             } else {
-                Check.fails("parse of " + text, text.endsWith("p") ? Check.STATE : Check.ARGUMENT, x::parse);
+                Check.fails("parse of " + text, due, x::parse);
             }
-            String due = all(Check.expanded("set 1 1;equal 2 3 3;jump 0;out 5"));
-            Check.same("all after parse of " + text, all(x), due);
+            Check.same(part + " after parse of " + text, part.of(x), part.of(made(true, true, "")));
         }
     }
 
@@ -124,58 +164,5 @@ final class RefusedCallsTest {
         Check.fails("feed", Check.STATE, () -> x.feed('9'));
         Check.same("parse", x.parse(), 29);
         Check.same("the last instruction", Check.instruction(x, 28), "1 0 0 78");
-    }
-
-    /** All that can be asked of an object; the asking changes it. */
-    private static String all(BranchSlotFiller x) {
-        StringBuilder all = new StringBuilder("text ").append(Check.text(x));
-        all.append("\nkept ").append(kept(x));
-        forms(x, all);
-        all.append("\nbuffer ");
-        for (char letter : ";nop".toCharArray()) {
-            all.append(' ').append(x.feed(letter));
-        }
-        all.append(" parse ").append(told(x, y -> y.parse()));
-        forms(x, all);
-        for (int k = 0; k < 9; k++) {
-            all.append("\nundo ").append(told(x, y -> y.undo())).append(' ').append(Check.written(x));
-        }
-        initial(x, all);
-        all.append("\nrestore ").append(told(x, y -> y.restore()));
-        forms(x, all);
-        initial(x, all);
-        all.append("\nundo ").append(told(x, y -> y.undo()));
-        return all.toString();
-    }
-
-    private static String told(BranchSlotFiller x, Call call) {
-        try {
-            return Long.toString(call.of(x));
-        } catch (RuntimeException e) {
-            return e.getClass().getSimpleName();
-        }
-    }
-
-    private static String kept(BranchSlotFiller x) {
-        StringBuilder text = new StringBuilder(told(x, y -> y.outputs()));
-        for (int i = 0; i < 24; i++) {
-            int place = i;
-            text.append(' ').append(told(x, y -> y.finalValue(place >= 8, place % 8 + (place >= 16 ? 8 : 0))));
-        }
-        return text.append(' ').append(told(x, y -> y.output(0))).toString();
-    }
-
-    private static void forms(BranchSlotFiller x, StringBuilder all) {
-        for (int i = 0; i < x.instructions(); i++) {
-            all.append("\ninstruction ").append(Check.instruction(x, i));
-        }
-        all.append("\nform ").append(Check.written(x));
-    }
-
-    private static void initial(BranchSlotFiller x, StringBuilder all) {
-        all.append("\ninitial");
-        for (int i = 0; i < 24; i++) {
-            all.append(' ').append(x.setInitial(i >= 8, i % 8 + (i >= 16 ? 8 : 0), 1));
-        }
     }
 }
