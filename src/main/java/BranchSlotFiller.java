@@ -475,7 +475,7 @@ public final class BranchSlotFiller {
             System.arraycopy(parts, from * PARTS, parts, to * PARTS, PARTS);
         }
 
-        /** Appends an instruction without operands, and answers its number. */
+        // All parts are set, as a longer program that stood here may have left others.
         int appendKind(int kind) {
             int i = size;
             size++;
@@ -582,7 +582,7 @@ public final class BranchSlotFiller {
             return found;
         }
 
-        /** Answers the registers that an instruction reads, bit r for register r. */
+        /** The set of registers has bit r for register r. */
         int reads(int i) {
             int at = i * PARTS;
             Kind kind = KINDS[parts[at + KIND]];
@@ -592,7 +592,6 @@ public final class BranchSlotFiller {
             return set;
         }
 
-        /** Answers the register that an instruction writes, as a set. */
         int writes(int i) {
             int at = i * PARTS;
             return KINDS[parts[at + KIND]].writesA ? 1 << parts[at + A] : 0;
@@ -663,7 +662,6 @@ public final class BranchSlotFiller {
             return read[i] | (after & ~written[i]);
         }
 
-        /** Answers the number of entries that are no slots and that no execution could reach. */
         int unreachable() {
             for (int k = 0; k <= program.size; k++) {
                 isReached[k] = false;
@@ -793,7 +791,6 @@ public final class BranchSlotFiller {
             return way == FROM_BEFORE ? branch - 1 : branch;
         }
 
-        /** Fills the slots from the first branch to the last one, and answers how many were filled. */
         int fillEach(int first, int second) {
             int third = FROM_BEFORE + FROM_TARGET + FROM_FALL_THROUGH - first - second;
             int filled = 0;
@@ -1040,7 +1037,6 @@ public final class BranchSlotFiller {
             return true;
         }
 
-        /** Answers whether all operands of the program that was read are in their range. */
         boolean isInRange() {
             for (int i = 0; i < program.size; i++) {
                 for (int operand = 0; operand < OPERANDS; operand++) {
