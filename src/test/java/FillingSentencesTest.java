@@ -1,3 +1,6 @@
+import java.util.ArrayList;
+import java.util.List;
+
 /** The sentences of Filling that name a boundary case: each one has a test of its own, which begins with it. */
 final class FillingSentencesTest {
     public static void main(String[] args) {
@@ -9,9 +12,11 @@ final class FillingSentencesTest {
         theFirstThatIsNoNop();
         theFirstThatIsIndependentOfAllBetween();
         theFirstThatIsIndependentOfTheBranch();
+        eachKindCanPassAndBePassed();
         independentOfWrittenRegisters();
         independentOfMemory();
         independentOfOutput();
+        independentInAllPairs();
         fromBeforeMoves();
         theTargetIsNotTheEnd();
         theTargetIsNeitherNopNorBranchNorHalt();
@@ -152,6 +157,31 @@ final class FillingSentencesTest {
         found("out 1;equal 1 2 2", 1, 0, 0);
     }
 
+    private static void eachKindCanPassAndBePassed() {
+        Check.sentence("The first that is no nop and is independent of all entries between, for each kind");
+        String[] candidates = {"set 3 4", "copy 3 4", "add 3 4 5", "sub 3 4 5", "load 3 4 5", "store 3 4 5", "out 3"};
+        for (String kind : candidates) {
+            found(kind + ";jump 2", 1, 0, 0);
+            found(kind + ";equal 1 2 2", 1, 0, 0);
+            found("halt;" + kind + ";less 1 2 3", 2, 0, 1);
+            found(kind + ";set 1 1;less 1 2 3", 2, 0, 0);
+        }
+        for (String kind : new String[] {"set 1 4", "copy 1 4", "add 1 4 5", "sub 1 4 5", "load 1 4 5"}) {
+            none(kind + ";less 1 2 2", 1, 0);
+            found("set 3 1;" + kind + ";less 1 2 3", 2, 0, 0);
+            none("copy 1 6;" + kind + ";less 1 2 3", 2, 0);
+            none("out 1;" + kind + ";less 1 2 3", 2, 0);
+            if (!kind.startsWith("set")) {
+                none("set 4 6;" + kind + ";less 1 2 3", 2, 0);
+            }
+        }
+        // A store or an out that is no candidate, for it can't pass the entry after it.
+        found("set 3 1;store 5 6 0;load 1 6 0;less 1 2 4", 3, 0, 0);
+        none("load 3 4 0;store 5 6 0;load 1 6 0;less 1 2 4", 3, 0);
+        found("set 3 1;out 1;set 1 5;less 1 2 4", 3, 0, 0);
+        none("out 3;out 1;set 1 5;less 1 2 4", 3, 0);
+    }
+
     private static void independent(String one, String two, boolean due) {
         BranchSlotFiller x = Check.expanded(one + ";" + two);
         int k = x.entry(1, 4) == 1 ? 2 : 1;
@@ -207,6 +237,73 @@ final class FillingSentencesTest {
         independent("out 1", "copy 2 1", true);
         independent("out 1", "equal 1 1 0", true);
         none("out 1;out 2;copy 2 3;equal 2 2 4", 3, 0);
+    }
+
+    private static void independentInAllPairs() {
+        Check.sentence("Two instructions are independent if .. (all kinds, and all ways to share registers)");
+        List<String> texts = new ArrayList<>(List.of("nop", "jump 0", "halt"));
+        for (int a = 0; a < 3; a++) {
+            texts.add("set " + a + " 1");
+            texts.add("out " + a);
+            for (int b = 0; b < 3; b++) {
+                for (String name : new String[] {"copy *", "load * 0", "store * 1", "equal * 0", "less * 0"}) {
+                    texts.add(name.replace("*", a + " " + b));
+                }
+                for (int c = 0; c < 3; c++) {
+                    texts.add("add " + a + " " + b + " " + c);
+                    texts.add("sub " + a + " " + b + " " + c);
+                }
+            }
+        }
+        for (String one : texts) {
+            for (String two : texts) {
+                BranchSlotFiller x = Check.expanded(one + ";" + two);
+                int k = x.entry(1, 4) == 1 ? 2 : 1;
+                Check.same(one + " and " + two, x.isIndependent(0, k) ? 1 : 0, areIndependent(one, two) ? 1 : 0);
+            }
+        }
+    }
+
+    private static boolean areIndependent(String one, String two) {
+        String writtenByOne = written(one);
+        String writtenByTwo = written(two);
+        for (char register = '0'; register <= '2'; register++) {
+            boolean isWrittenByOne = writtenByOne.indexOf(register) >= 0;
+            boolean isWrittenByTwo = writtenByTwo.indexOf(register) >= 0;
+            if (isWrittenByOne && (isWrittenByTwo || read(two).indexOf(register) >= 0)) {
+                return false;
+            }
+            if (isWrittenByTwo && read(one).indexOf(register) >= 0) {
+                return false;
+            }
+        }
+        boolean isAccess = one.matches("(load|store) .*") && two.matches("(load|store) .*");
+        boolean isStore = one.startsWith("store") || two.startsWith("store");
+        return !(isAccess && isStore) && !(one.startsWith("out") && two.startsWith("out"));
+    }
+
+    private static String written(String text) {
+        return text.matches("(set|copy|add|sub|load) .*") ? text.split(" ")[1] : "";
+    }
+
+    private static String read(String text) {
+        String[] words = text.split(" ");
+        switch (words[0]) {
+            case "copy":
+            case "load":
+                return words[2];
+            case "add":
+            case "sub":
+                return words[2] + words[3];
+            case "store":
+            case "equal":
+            case "less":
+                return words[1] + words[2];
+            case "out":
+                return words[1];
+            default:
+                return "";
+        }
     }
 
     private static void fromBeforeMoves() {
@@ -330,6 +427,11 @@ final class FillingSentencesTest {
         Check.sentence("and if it writes no register that is live at the target of the branch i");
         none("equal 1 2 2;set 3 1;out 3", 0, 2);
         found("equal 1 2 2;set 3 1;out 2", 0, 2, 2);
+        for (String kind : new String[] {"set 3 4", "copy 3 4", "add 3 4 5", "sub 3 4 5", "load 3 4 5"}) {
+            none("equal 1 2 2;" + kind + ";out 3", 0, 2);
+            none("less 1 2 2;" + kind + ";out 3", 0, 2);
+            found("less 1 2 2;" + kind + ";out 4", 0, 2, 2);
+        }
         none("equal 1 2 2;set 0 1;out 0", 0, 2);
         none("equal 1 2 2;set 7 1;out 7", 0, 2);
         found("equal 1 2 2;set 3 1;set 3 2;out 3", 0, 2, 2);

@@ -572,6 +572,14 @@ final class MachineSentencesTest {
             }
         }
         Check.same("all entries can be reached", x.count(4), 0);
+        BranchSlotFiller z = Check.parsed(back("jump 10"));
+        Check.parse(z, back("jump 10"));
+        Check.parse(z, back("equal 4 5 10"));
+        Check.same("the most entries", z.expand(), 60);
+        for (int i = 0; i < 60; i += 2) {
+            Check.same("live before " + i, z.live(i), 48);
+        }
+        Check.same("all of 60 entries can be reached", z.count(4), 0);
         BranchSlotFiller y = Check.parsed(back("jump 10"));
         Check.parse(y, back("less 1 2 10"));
         Check.parse(y, back("halt"));

@@ -231,6 +231,8 @@ final class PromiseSentencesTest {
         }
         inRange(Check.repeated("nop", ";", 27) + ";jump 28", 28);
         outOfRange(Check.repeated("nop", ";", 26) + ";jump 28");
+        outOfRange(Check.repeated("nop", ";", 28) + ";out 8");
+        outOfRange("out 8;" + Check.repeated("nop", ";", 28));
     }
 
     private static void promise3LooksAtTheNumber() {
@@ -339,6 +341,7 @@ final class PromiseSentencesTest {
         Check.same("an entry in the middle", x.entry(28, 6), 14);
         Check.same("a slot", x.entry(29, 6), 0);
         Check.same("a later entry", x.entry(56, 6), 15);
+        Check.same("the 60 entries' last branch counts", fullOfConditions().entry(40, 6), 10);
         BranchSlotFiller most = Check.parsed(Check.repeated("jump 0", ";", 17));
         Check.same("the first entry of the greatest text of jumps", most.expand(), 34);
         Check.same("the most branches", most.entry(0, 6), 17);
@@ -371,6 +374,12 @@ final class PromiseSentencesTest {
         counts(x, "3 0 2 1 1");
         Check.same("the form", Check.written(x),
                 "nop;out 1;less* 1 2 2|out 1;equal* 1 2 2|out 1;jump 2|out 1;halt");
+        BranchSlotFiller late = Check.parsed(Check.repeated("jump 14", ";", 14));
+        Check.parse(late, Check.repeated("jump 14", ";", 14));
+        Check.parse(late, "out 1;less 1 2 0");
+        late.expand();
+        late.fill(57, 1);
+        counts(late, "29 28 1 28 26");
         BranchSlotFiller first = Check.expanded("less 1 2 1;out 1");
         first.fill(0, 1);
         counts(first, "1 0 1 0 0");
@@ -430,6 +439,12 @@ final class PromiseSentencesTest {
         Check.same("the first one of 60", conditions.live(0), 129);
         Check.same("the last branch of 60", conditions.live(58), 129);
         Check.same("the end of 60 that can be reached", conditions.live(60), 0);
+        BranchSlotFiller last = Check.parsed(Check.repeated("jump 14", ";", 14));
+        Check.parse(last, Check.repeated("jump 15", ";", 15));
+        Check.parse(last, "equal 1 2 0");
+        Check.same("60 entries", last.expand(), 60);
+        Check.same("what the last branch of 60 alone reads", last.live(58), 6);
+        Check.same("what is read there is live before the first one", last.live(0), 6);
         Check.sentence("Promise 11: IndexOutOfBoundsException if there is no such entry");
         for (int i : new int[] {LEAST, -1, 61, 62, GREATEST}) {
             Check.fails("live " + i, Check.OUT_OF_BOUNDS, () -> full.live(i));
